@@ -715,12 +715,10 @@ public final class LeftUndoes {
             super(kind, number, grace, strength, ran);
         }
 
-        @Override
         int pull(int year) {
             return year % 3 == 2 ? 0 : super.pull(year);
         }
 
-        @Override
         int gives(int x) {
             began(20);
             return super.gives(x) + number;
@@ -732,12 +730,10 @@ public final class LeftUndoes {
             super(kind, number, grace, strength, ran);
         }
 
-        @Override
         int term() {
             return super.term() * 2;
         }
 
-        @Override
         int takes(int x) {
             began(30);
             return 0 - super.takes(x);
@@ -749,23 +745,19 @@ public final class LeftUndoes {
             super(kind, number, grace, strength, ran);
         }
 
-        @Override
         int term() {
             return super.term() - 1;
         }
 
-        @Override
         int pull(int year) {
             return super.pull(year) + 1;
         }
 
-        @Override
         int gives(int x) {
             began(50);
             return super.gives(x) * 3;
         }
 
-        @Override
         int swears(int x) {
             began(51);
             int sworn = super.swears(x);
@@ -778,17 +770,14 @@ public final class LeftUndoes {
             super(kind, number, grace, strength, ran);
         }
 
-        @Override
         int term() {
             return super.term() + 2;
         }
 
-        @Override
         int pull(int year) {
             return super.pull(year) / 2;
         }
 
-        @Override
         int splits(int x) {
             began(40);
             return super.splits(x + 5);
@@ -800,23 +789,19 @@ public final class LeftUndoes {
             super(kind, number, grace, strength, ran);
         }
 
-        @Override
         int term() {
             return super.term() + 9;
         }
 
-        @Override
         int pull(int year) {
             return year >= 9 ? 9 : super.pull(year);
         }
 
-        @Override
         int takes(int x) {
             began(60);
             return super.takes(x) ^ grace;
         }
 
-        @Override
         int splits(int x) {
             began(61);
             int left = super.splits(x);
@@ -882,7 +867,9 @@ public final class LeftUndoes {
         final int[] when;
         final int[] weight;
         final int[] need;
+        /** Of each DEED when it is DUE, of each of PEOPLE its DEEDS as a set: settled whenever they may be others. */
         final int[] due;
+        final int[] mine;
         int end;
         int z;
         int reports;
@@ -900,6 +887,7 @@ public final class LeftUndoes {
             weight = new int[DEEDS_MOST];
             need = new int[DEEDS_MOST];
             due = new int[DEEDS_MOST];
+            mine = new int[PEOPLE_MOST];
             end = END_FIRST;
             z = 1;
             told = new int[REPORTS_MOST][4];
@@ -914,6 +902,7 @@ public final class LeftUndoes {
             for (int p = 0; p < PEOPLE_MOST; p++) {
                 Hand one = from.people[p];
                 people[p] = made(one.kind, p, one.grace, one.strength, ran);
+                mine[p] = from.mine[p];
                 for (int q = 0; q < PEOPLE_MOST; q++) loans[p][q] = from.loans[p][q];
             }
             deeds = from.deeds;
@@ -954,25 +943,32 @@ public final class LeftUndoes {
             return c.year >= end;
         }
 
-        /** DUE of each DEED anew, as GRACE or the KIND of one, or the DEEDS, are others now. */
         void settle() {
-            for (int d = 0; d < deeds; d++) due[d] = when[d] + people[whose[d]].term();
+            for (int p = 0; p < PEOPLE_MOST; p++) mine[p] = 0;
+            for (int d = 0; d < deeds; d++) {
+                due[d] = when[d] + people[whose[d]].term();
+                mine[whose[d]] |= 1 << d;
+            }
         }
 
+        /** The WEIGHTS of the DEEDS of one that STAND, together. */
         int borne(int p, Course c) {
+            int its = mine[p] & c.stands;
             int sum = 0;
             for (int d = 0; d < deeds; d++) {
-                if (whose[d] == p && c.isStanding(d)) sum += weight[d];
+                if ((its >> d & 1) == 1) sum += weight[d];
             }
             return sum;
         }
 
         int choice(int p, Course c) {
+            int its = mine[p] & c.stands;
+            if (its == 0) return NO_DEED;
             int pull = people[p].pull(c.year);
             int latest = latestDue(p, c);
             int found = NO_DEED;
             for (int d = 0; d < deeds; d++) {
-                if (whose[d] != p || !c.isStanding(d) || weight[d] > pull || due[d] > latest) continue;
+                if ((its >> d & 1) == 0 || weight[d] > pull || due[d] > latest) continue;
                 if (found == NO_DEED || due[d] < due[found]) found = d;
             }
             return found;
@@ -986,13 +982,15 @@ public final class LeftUndoes {
             facts[2] = people[p].grace;
             facts[3] = people[p].strength;
             facts[4] = p;
-            int r = rules.firstFor(people[p].kind, facts);
-            if (!isWithin(r, 0, RULES_MOST - 1)) return c.year;
-            switch (rules.what[r]) {
-                case EARLY: return c.year + rules.years[r];
-                case LATE: return c.year - rules.years[r];
-                default: return -1;
+            for (int r = 0; r < rules.count; r++) {
+                if (!isUnder(people[p].kind, rules.kind[r]) || !rules.holds(r, facts)) continue;
+                switch (rules.what[r]) {
+                    case EARLY: return c.year + rules.years[r];
+                    case LATE: return c.year - rules.years[r];
+                    default: return -1;
+                }
             }
+            return c.year;
         }
 
         /** A YEAR goes by in a course, with that ACT ahead of it: what it is WORTH. */
@@ -1150,20 +1148,10 @@ public final class LeftUndoes {
             count++;
         }
 
-        /** The first RULE for a KIND whose condition holds; -1: none. */
-        int firstFor(int itsKind, int[] facts) {
-            int from = 0;
-            for (int r = 0; r < count; r++) {
-                if (isUnder(itsKind, kind[r]) && holds(from, behind[r], facts)) return r;
-                from = behind[r];
-            }
-            return -1;
-        }
-
         /** The truths that wait are bits, the latest lowest; a rule without a condition has no steps, and holds. */
-        private boolean holds(int from, int to, int[] facts) {
+        boolean holds(int r, int[] facts) {
             int truths = 1;
-            for (int k = from; k < to; k++) {
+            for (int k = r == 0 ? 0 : behind[r - 1]; k < behind[r]; k++) {
                 int step = steps[k];
                 switch (step) {
                     case NOT: truths ^= 1; break;
@@ -1178,8 +1166,8 @@ public final class LeftUndoes {
         private static boolean isSo(int step, int[] facts) {
             int left = step >> VALUE_BITS & VALUE_MASK;
             int right = step & VALUE_MASK;
-            if (isWithin(left - FACT_BASE, 0, FACTS - 1)) left = facts[left - FACT_BASE];
-            if (isWithin(right - FACT_BASE, 0, FACTS - 1)) right = facts[right - FACT_BASE];
+            if (left >= FACT_BASE && left - FACT_BASE < facts.length) left = facts[left - FACT_BASE];
+            if (right >= FACT_BASE && right - FACT_BASE < facts.length) right = facts[right - FACT_BASE];
             switch (step >> 2 * VALUE_BITS) {
                 case LESS: return left < right;
                 case SAME: return left == right;
@@ -1195,7 +1183,7 @@ public final class LeftUndoes {
         final int[] tape;
         int length;
         final Rules draft;
-        /** What is read now: its sort, where it begins, where it is over; of a NUMBER its value (-1: too many digits). */
+        /** What is read now: its sort, where it begins, what is behind it, a NUMBER's value (-1: too many digits). */
         private int sort;
         private int place;
         private int behind;
@@ -1353,7 +1341,7 @@ public final class LeftUndoes {
         }
 
         private boolean isAt(int at, int least, int most) {
-            return isWithin(at, 0, length - 1) && isWithin(tape[at], least, most);
+            return at >= 0 && at < length && tape[at] >= least && tape[at] <= most;
         }
 
         private int numberRead() {
