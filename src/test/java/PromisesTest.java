@@ -1185,8 +1185,109 @@ public final class PromisesTest {
         due("state(0)", x.state(0), 2);
     }
 
+    /** A forger's DEED of YEAR 15, DUE in 17, and one of YEAR 13, undone in 15; END is 16. */
+    private static void farYears() {
+        LeftUndoes x = people(2, 1, 9, 4, 1, 9);
+        x.deed(0, 15, 6, -1);
+        x.deed(0, 13, 4, -1);
+        x.deed(1, 10, 9, -1);
+        promise = 17;
+        due("until(1), END 12", x.until(1), NONE);
+        x.ends(16);
+        due("until(1), END 16", x.until(1), 15);
+        due("until(0)", x.until(0), NONE);
+        promise = 15;
+        due("leaves(0)", x.leaves(0), 6);
+        promise = 18;
+        due("overdue()", x.overdue(), 2);
+        promise = 20;
+        // the heavy one is DUE in 12 + GRACE: with 3 it is worth 9 up to YEAR 15
+        due("graceFor(1)", x.graceFor(1), 3);
+        promise = 40;
+        // 9 in 10 to 13, 4 in 13 and 14, 6 in 15, and 4 more if the forger is HELD in it
+        due("often(1, 50)", x.often(20, 36 + 8 + 6), 20);
+        due("often(1, 55)", x.often(20, 36 + 8 + 6 + 5), 0);
+        promise = 13;
+        years(x, 15);
+        due("year() 15", x.year(), 6);
+    }
+
+    private static void edges() {
+        promise = 21;
+        LeftUndoes x = people(2, 1, 1);
+        x.deed(0, 0, 9, -1);
+        due("strengthFor(0), the most", x.strengthFor(0), 9);
+        promise = 41;
+        due("prove(4)", x.prove(4), 4);
+        promise = 44;
+        due("judge(), four ROWS", x.judge(), 0);
+        promise = 12;
+        String longText = "hand spare;" + " ".repeat(189);
+        due("200 bytes", told(new LeftUndoes(), longText), 1);
+        due("200 bytes", told(new LeftUndoes(), " ".repeat(189) + "hand spare;"), 1);
+        due("200 bytes, a NAME at the end", told(new LeftUndoes(), " ".repeat(196) + "hand"), -300);
+        due("200 bytes, a NUMBER at the end", told(new LeftUndoes(), " ".repeat(187) + "hand early 99"), -300);
+        due("200 letters", told(new LeftUndoes(), "a".repeat(200)), -100);
+        due("200 digits", told(new LeftUndoes(), "hand early " + "1".repeat(189)), -111);
+        promise = 54;
+        LeftUndoes y = family();
+        for (int p = 0; p < 6; p++) for (int q = 0; q < 6; q++) if (p != q) y.owe(p, q, p + q);
+        due("many(7)", y.many(7), 30);
+        promise = 26;
+        LeftUndoes z = people(1, 1, 1, 1, 1, 1, 1, 1, 1);
+        z.owe(1, 2, 1);
+        due("payments(), the first has no part in it", z.payments(), 1);
+        promise = 52;
+        y.sheet(3, 1, 2);
+        y.sheet(0, 4, 9);
+        due("write on the last SHEET", y.write(3, 1, -7), 1);
+        due("item of the last SHEET", y.item(3, 1, 1), -7);
+        due("shelf with the first SHEET", y.shelf(3, 1, 0), 1);
+        due("taken", y.taken(3, 14), 9);
+        due("the first one on the last SHELF", y.shelf(3, 0, 0), 1);
+        due("act", y.act(3, 0, 10), 7);
+        y.change(4, 1, 3);
+        // heir: gives(8) is 5, takes 10; 10 ^ 3
+        actIs(y, 4, 1, 8, 10 ^ 3, 60, 11, 10);
+    }
+
+    /** Where there is no other way to tell who lies, or what is kept. */
+    private static void keptReports() {
+        promise = 37;
+        LeftUndoes x = new LeftUndoes();
+        x.report(1, 0, 0, 1);
+        due("liar(), the first", x.liar(), 0);
+        x.report(1, 0, 0, 0);
+        due("liar(), the first", x.liar(), 0);
+        x.forget();
+        x.report(1, 15, 31, 0);
+        due("liar(), some FIT", x.liar(), NONE);
+        x.forget();
+        x.report(1, 0, 31, 1);
+        x.report(9, 0, 0, 1);
+        x.report(9, 0, 1, 1);
+        // DUE in 1, undone in 1: clasped with GRACE 1 and STRENGTH 9, so 1 alone lies
+        due("liar()", x.liar(), 1);
+        promise = 56;
+        LeftUndoes y = people(1, 1, 1, 1, 1, 1, 1, 1, 1);
+        y.owe(1, 0, 8);
+        y.owe(2, 1, 9);
+        y.report(8, 0, 3, 1);
+        y.keep();
+        y.owe(1, 0, 1);
+        y.owe(2, 1, 1);
+        y.forget();
+        y.report(1, 9, 9, 0);
+        y.again();
+        dueAll("owes", new int[] {y.owes(1, 0), y.owes(2, 1), y.owes(0, 1)}, 8, 9, 0);
+        due("span(0), as reckoned for promise 36", y.span(0), 14);
+    }
+
     public static void main(String[] args) {
         newObject();
+        farYears();
+        edges();
+        keptReports();
         persons();
         personsOf();
         choices();
