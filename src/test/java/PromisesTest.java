@@ -97,6 +97,14 @@ public final class PromisesTest {
         due("personOf(0, 0)", x.personOf(0, 0), BAD);
         due("deedOf(0, 0)", x.deedOf(0, 0), BAD);
         due("judge()", x.judge(), 0);
+        promise = 55;
+        due("keep() of nothing", x.keep(), 1);
+        x.person(1, 1, 1);
+        promise = 26;
+        due("payments() of one", x.payments(), 0);
+        promise = 56;
+        due("again()", x.again(), 0);
+        due("many(0)", x.many(0), 0);
     }
 
     private static void persons() {
